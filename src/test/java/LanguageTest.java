@@ -1,0 +1,140 @@
+import java.io.IOException;
+import java.lang.reflect.Constructor;
+import java.lang.reflect.Field;
+import java.lang.reflect.Method;
+import java.lang.reflect.Modifier;
+import java.nio.file.Files;
+import java.nio.file.Path;
+import java.util.ArrayList;
+import java.util.Arrays;
+import java.util.List;
+import java.util.Set;
+import java.util.TreeSet;
+import java.util.regex.Matcher;
+import java.util.regex.Pattern;
+
+/** The document's public face, and those rules of LANGUAGE.md that can be seen in the source or by reflection. */
+public final class LanguageTest {
+    private static final Path SOURCE = Path.of("src/main/java/LoafParts.java");
+    private static final String FACE = "asked() at(int,int) back(int,int) bake(int) best() copy(int,int,int,int,int)"
+        + " count(int) cut(int) digest() duel(int,int,int) dues(int) fault(int) finding() findings(int) give(int,int)"
+        + " greedy(int) keep(int) kinds(int) lacks(int) lay(int,int,int) lots(int,int) lower() mark(int,int) mean(int)"
+        + " mid(int,int) need() odds(int,int) on(int) poor() put(int,int,int) ready() row(int,int) serve(int)"
+        + " table(int) takes(int,int) tear(int) test(int) text(int,int) undo(int) upper() ways(int) worker(int,int)"
+        + " writes(int,int)";
+    private static final Set<String> LONGS = Set.of("upper", "lower", "digest");
+    private static final Set<String> FUNCTIONS = Set.of("Integer.bitCount", "Integer.numberOfTrailingZeros", "Math.max",
+        "Math.min", "Math.floorDiv", "Math.floorMod", "Math.abs", "System.arraycopy");
+    private static final String[] FORBIDDEN = {"\\bthrow\\b", "\\bthrows\\b", "\\btry\\b", "\\bcatch\\b",
+        "\\bfinally\\b", "\\bsynchronized\\b", "\\bassert\\b", "\\bimport\\b", "\\bpackage\\b", "->", "::", "Exact\\(",
+        "static\\s*\\{", "\\bvar\\b", "\\bvolatile\\b", "\\bprotected\\b", "\\bdouble\\b", "\\bfloat\\b", "@"};
+
+    private static final Bench B = new Bench();
+
+    public static void main(String[] args) throws IOException {
+        face();
+        names();
+        fields();
+        String code = withoutComments(Files.readString(SOURCE));
+        words(code);
+        functions(code);
+        lengths(code);
+        B.finish("LanguageTest");
+    }
+
+    private static void face() {
+        Set<String> methods = new TreeSet<>();
+        for (Method m : LoafParts.class.getDeclaredMethods()) {
+            if (Modifier.isPublic(m.getModifiers())) {
+                methods.add(m.getName() + Arrays.toString(m.getParameterTypes()).replace("[", "(").replace("]", ")")
+                    .replace(" ", ""));
+                B.is(m + " gives what it should", m.getReturnType() == (LONGS.contains(m.getName()) ? long.class
+                    : int.class) ? 1 : 0, 1);
+            } else {
+                B.is(m + " is private", Modifier.isPrivate(m.getModifiers()) ? 1 : 0, 1);
+            }
+        }
+        String got = String.join(" ", methods);
+        B.is("the face " + got, got.equals(FACE) ? 1 : 0, 1);
+        Constructor<?>[] makers = LoafParts.class.getDeclaredConstructors();
+        B.is("constructors", makers.length, 1);
+        B.is("the constructor is public", Modifier.isPublic(makers[0].getModifiers()) ? 1 : 0, 1);
+        B.is("its parameters", makers[0].getParameterCount(), 0);
+        B.is("the class is public and final", LoafParts.class.getModifiers(), Modifier.PUBLIC | Modifier.FINAL);
+    }
+
+    private static void names() {
+        Set<String> open = new TreeSet<>();
+        for (Method m : LoafParts.class.getDeclaredMethods()) {
+            if (Modifier.isPublic(m.getModifiers())) {
+                open.add(m.getName());
+            }
+        }
+        List<Class<?>> classes = new ArrayList<>(List.of(LoafParts.class.getDeclaredClasses()));
+        B.is("some twelve classes", classes.size() <= 11 ? 1 : 0, 1);
+        for (Class<?> c : classes) {
+            B.is(c + " is static", Modifier.isStatic(c.getModifiers()) ? 1 : 0, 1);
+            for (Method m : c.getDeclaredMethods()) {
+                B.is(m + " has a name of its own", open.contains(m.getName()) ? 1 : 0, 0);
+                B.is(m + " is not public", Modifier.isPublic(m.getModifiers()) ? 1 : 0, 0);
+                B.is(m + " has few parameters", m.getParameterCount() <= 7 ? 1 : 0, 1);
+            }
+        }
+        for (Method m : LoafParts.class.getDeclaredMethods()) {
+            boolean hidden = !Modifier.isPublic(m.getModifiers());
+            B.is(m + " has a name of its own", hidden && open.contains(m.getName()) ? 1 : 0, 0);
+        }
+    }
+
+    private static void fields() {
+        List<Class<?>> classes = new ArrayList<>(List.of(LoafParts.class.getDeclaredClasses()));
+        classes.add(LoafParts.class);
+        for (Class<?> c : classes) {
+            int own = 0;
+            for (Field f : c.getDeclaredFields()) {
+                boolean fixed = Modifier.isStatic(f.getModifiers());
+                own += fixed ? 0 : 1;
+                B.is(f + " is final, if static", fixed && !Modifier.isFinal(f.getModifiers()) ? 1 : 0, 0);
+                if (c == LoafParts.class && !Modifier.isPrivate(f.getModifiers())) {
+                    B.is(f + " is of the face", Set.of("BAD", "FULL", "FINDING", "STATE", "SPENT", "NONE")
+                        .contains(f.getName()) ? 1 : 0, 1);
+                }
+            }
+            B.is(c + " has some twenty fields", own <= 20 ? 1 : 0, 1);
+        }
+    }
+
+    private static String withoutComments(String source) {
+        return source.replaceAll("(?s)/\\*.*?\\*/", "").replaceAll("//[^\n]*", "");
+    }
+
+    private static void words(String code) {
+        for (String word : FORBIDDEN) {
+            Matcher m = Pattern.compile(word).matcher(code);
+            B.is("the source has " + word, m.find() ? 1 : 0, 0);
+        }
+    }
+
+    private static void functions(String code) {
+        Matcher m = Pattern.compile("\\b(Integer|Long|Math|System|Arrays|String|Character|Byte)\\.(\\w+)").matcher(code);
+        while (m.find()) {
+            B.is(m.group() + " is listed", FUNCTIONS.contains(m.group()) ? 1 : 0, 1);
+        }
+    }
+
+    /** Methods of the class begin at four blanks, those of classes inside at eight. */
+    private static void lengths(String code) {
+        String[] lines = code.split("\n");
+        for (int k = 0; k < lines.length; k++) {
+            String indent = lines[k].startsWith("        ") ? "        " : "    ";
+            if (lines[k].matches(" {4}( {4})?[a-z][^=;]*\\) \\{") && !lines[k].trim().matches("(if|for|while|switch).*")) {
+                int end = k;
+                while (end < lines.length && !lines[end].equals(indent + "}")) {
+                    end++;
+                }
+                B.is(lines[k].trim() + " is short", end - k <= 60 ? 1 : 0, 1);
+            }
+            B.is("line " + k + " is not too long", lines[k].length() <= 120 ? 1 : 0, 1);
+        }
+    }
+}
