@@ -39,21 +39,27 @@ public final class ChancesTest {
         B.refuses(x, "34: duel(0, 1, 5)", () -> x.duel(0, 1, 5), BAD);
     }
 
-    /** To pick less and leave the other one nothing, or none so as not to end too early, may be best. */
+    /** Not always the greatest that is FIT. */
     private static void denial() {
         LoafParts x = Bench.tableOf("09w34e12w11w12");
         x.cut(2);
         x.cut(4);
         x.give(2, 2);
-        x.give(2, 4);
-        // A half and three fourths lie there.
+        // A half and four fourths lie there.
         B.is("34: the half, then a fourth", x.duel(0, 1, 2), 5000 + 180);
-        B.is("34: the half first, then the other a fourth, then a fourth", x.duel(0, 1, 3), 5000 + 360);
-        x.cut(3);
-        x.give(2, 16);
-        // By a third a half can't be ended (no sixth there): worth nothing at the last turn but a third.
-        B.is("34: one turn", x.duel(3, 1, 1), 5000 + 360);
-        B.is("34: three turns", x.duel(3, 1, 3), 5000 + 180);
+        B.is("34: the half, a fourth, a fourth", x.duel(0, 1, 3), 5000 + 360);
+        B.is("34: 1 by 2 alone, then a fourth", x.duel(3, 1, 3), 5000 + 180);
+        LoafParts y = Bench.tableOf("09w67o21w91w91");
+        y.cut(2);
+        y.cut(3);
+        y.give(2, 2);
+        y.give(2, 3);
+        y.give(3, 3);
+        // A half and a third are left; the second, an ODD one, TAKES the third alone.
+        B.is("34: the half", y.duel(0, 1, 1), 5000 + 360);
+        B.is("34: the third, so that the other one gets nothing", y.duel(0, 1, 2), 5000 + 240);
+        B.is("34: the third, nothing, the half", y.duel(0, 1, 3), 5000 + 600);
+        B.is("34: the second begins", y.duel(1, 0, 2), 5000 - 121);
     }
 
     private static void odds() {

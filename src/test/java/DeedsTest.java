@@ -144,14 +144,52 @@ public final class DeedsTest {
         B.refuses(x, "21: on(-1)", () -> x.on(-1), BAD);
         LoafParts y = Bench.tableOf("05w34e12w11");
         B.finds(y, "21: on(0), missing", () -> y.on(0), Bench.NOTHING);
+        otherDeedsMeanwhile();
+    }
+
+    /** What is kept is not the same that goes on: neither what one LACKS nor the DEEDS. */
+    private static void otherDeedsMeanwhile() {
+        LoafParts x = Bench.tableOf("05w34e12w11");
+        long first = x.digest();
+        Bench.pay(x, 0, 2);
+        x.bake(3);
+        x.keep(1);
+        x.undo(0);
+        Bench.pay(x, 2, 16);
+        x.cut(3);
+        x.give(2, 3);
+        x.lots(9, 3);
+        x.on(1);
+        B.tellsFraction(x, "21: what one LACKS", x.lacks(0), 1, 1, 4);
+        B.tellsFraction(x, "21: what another one LACKS", x.lacks(2), 1, 1, 1);
+        x.cut(7);
+        x.back(0, 2);
+        x.on(1);
+        B.is("21: DEEDS", x.count(2), 3);
+        B.is("21: LOAVES", x.count(1), 7);
+        B.is("19: DEEDS as they were kept are undone", x.undo(0), 3);
+        B.is("21: LOAVES at first", x.count(1), 5);
+        B.is("21: PARTS at first", x.count(3) + x.count(4) + x.count(6), 0);
+        LoafParts y = Bench.tableOf("05w34e12w11");
+        B.is("21: the TABLE at first", y.digest(), first);
+        y.keep(1);
+        x.keep(1);
+        B.is("21: all as at first", x.digest(), y.digest());
     }
 
     private static void full() {
         LoafParts x = Bench.tableOf("90w34e12");
         Bench.pay(x, 0, 2);
-        for (int k = 2; k < 40; k++) {
+        for (int k = 2; k < 39; k++) {
             x.cut(4);
         }
+        B.is("16: give(0, 4), the 40th", x.give(0, 4), 2);
+        x.undo(39);
+        B.is("17: back(0, 2), the 40th", x.back(0, 2), 0);
+        x.undo(39);
+        B.is("18: bake(1), the 40th", x.bake(1), 90 - 38 + 1);
+        x.undo(39);
+        B.is("15: cut(4), the 40th", x.cut(4), 38 * 4);
         B.is("40 DEEDS", x.count(2), 40);
         B.refuses(x, "15: cut(2), FULL", () -> x.cut(2), FULL);
         B.refuses(x, "16: give(0, 4), FULL", () -> x.give(0, 4), FULL);

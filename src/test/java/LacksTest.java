@@ -7,6 +7,7 @@ public final class LacksTest {
         lacks();
         ways();
         writes();
+        sixteenth();
         greedy();
         serve();
         need();
@@ -67,45 +68,36 @@ public final class LacksTest {
         Bench.pay(y, 0, 4);
         B.is("24: writes(0, 0), 1 by 12", y.writes(0, 0), 1);
         rowIs(y, 0, 12);
-        // Of 1 by 5 with 1 by 20, and of 1 by 6 with 1 by 12, the latter alone is of PARTS.
-        LoafParts z = Bench.tableOf("09s14m14");
-        Bench.pay(z, 0, 12);
-        B.is("24: writes(0, 0), 1 by 6", z.writes(0, 0), 1);
-        rowIs(z, 0, 6);
         likeFew();
     }
 
-    /** 1 by 2 by two PARTS is 3 6 (bits 72); 5 by 12 without a fourth, a third is none; ties are looked for. */
     private static void likeFew() {
-        LoafParts x = Bench.tableOf("09w38w58");
-        // 3 by 8: 4 8 (272) or 3 24 (none): two PARTS.
-        B.is("24: writes(0, 0)", x.writes(0, 0), 2);
+        LoafParts x = Bench.tableOf("30s35w38");
+        // 4 6 10 12 (bits 5200) and 4 5 12 15 (bits 36912) are the sets of fewest.
+        B.is("24: of like few the least number", x.writes(0, 0), 4);
+        rowIs(x, 0, 4, 6, 10, 12);
+        B.is("24: 3 by 8", x.writes(1, 0), 2);
         rowIs(x, 0, 4, 8);
-        LoafParts y = Bench.tableOf("09s12s34");
-        // 1 by 2 without 2, 3: of three PARTS 4 6 12 (4176), 5 10 .. ; the least number of like few.
-        int sets = tieByHand(720720 / 2, (1 << 17) - 16);
-        B.is("24: writes(0, 0)", y.writes(0, 0), Integer.bitCount(sets));
-        for (int i = 0, d = 2; d <= 16; d++) {
-            if ((sets >> d & 1) != 0) {
-                B.tells(y, "24: place " + i, y.at(0, i), 1, d);
-                i++;
-            }
+        for (int d : new int[] {15, 12, 5, 4}) {
+            x.cut(d);
         }
+        B.tells(x, "26: the one set that is there", x.serve(0), 36912, 4);
+        x.cut(10);
+        x.cut(6);
+        B.tells(x, "26: of like few the least number", x.serve(0), 5200, 4);
     }
 
-    private static int tieByHand(int size, int parts) {
-        int best = -1;
-        for (int set = 0; set < 1 << 17; set++) {
-            int sum = 0;
-            for (int d = 2; d <= 16; d++) {
-                sum += (set >> d & 1) != 0 ? 720720 / d : 0;
-            }
-            if ((set & ~parts) == 0 && sum == size
-                    && (best < 0 || Integer.bitCount(set) < Integer.bitCount(best))) {
-                best = set;
-            }
-        }
-        return best;
+    /** 1 by 7 less 1 by 13 is between a sixteenth and a fifteenth. */
+    private static void sixteenth() {
+        LoafParts x = Bench.tableOf("09w17w91");
+        x.cut(16);
+        x.cut(15);
+        Bench.pay(x, 0, 13);
+        B.tells(x, "12: a sixteenth alone is FIT", x.worker(0, 4), 1, 1 << 16);
+        B.is("34: a sixteenth is picked, then a thirteenth", x.duel(0, 1, 2), 5000 + 45);
+        B.is("16: give(0, 16)", x.give(0, 16), 2);
+        B.refuses(x, "23: ways(0)", () -> x.ways(0), NONE);
+        B.refuses(x, "25: greedy(0)", () -> x.greedy(0), NONE);
     }
 
     private static void rowIs(LoafParts x, int r, int... values) {
@@ -184,6 +176,12 @@ public final class LacksTest {
         Bench.pay(y, 0, 2);
         Bench.pay(y, 1, 2);
         B.tellsFraction(y, "28: nobody LACKS", y.poor(), 0, 0, 1);
+        Bench.putText(y, 0, "09w12w12w91w11w11w11w11");
+        y.table(0);
+        B.tellsFraction(y, "28: of seven", y.poor(), 2, 9, 1);
+        Bench.putText(y, 0, "09w12w34");
+        y.table(0);
+        B.tellsFraction(y, "28: of two, no others are left", y.poor(), 1, 3, 4);
         LoafParts z = new LoafParts();
         B.refuses(z, "28: no WORKERS", () -> z.poor(), STATE);
     }

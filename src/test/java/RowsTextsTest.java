@@ -124,6 +124,8 @@ public final class RowsTextsTest {
         B.tells(x, "7: mean of the greatest", x.mean(0), 1, MAX);
         Bench.putRow(x, 0, MIN, MIN);
         B.tells(x, "7: mean of the least", x.mean(0), 1, MIN);
+        Bench.putRow(x, 0, -9);
+        B.tells(x, "7: mean of -9", x.mean(0), 1, -9);
         x.row(1, 0);
         B.finds(x, "7: mean(1), among none", () -> x.mean(1), Bench.NOUGHT);
         B.finds(x, "7: mean(2)", () -> x.mean(2), Bench.NOTHING);

@@ -84,6 +84,16 @@ public final class ToldTest {
         for (int what = 0; what < 12; what++) {
             B.is("41: count(" + what + ")", x.count(what), counts[what]);
         }
+        LoafParts y = Bench.tableOf("30s23e12m12");
+        B.is("41: nobody is PAID", y.count(5), 0);
+        Bench.pay(y, 1, 2);
+        B.is("41: one is PAID", y.count(5), 2);
+        B.is("41: EYES", y.count(10), 1);
+        B.is("41: SHY ones", y.count(11), 2);
+        Bench.putText(y, 0, "30e12w12");
+        y.table(0);
+        B.is("41: EYES, the first", y.count(10), 1);
+        B.is("41: SHY ones, none", y.count(11), 0);
         for (int what : new int[] {12, -1, Integer.MIN_VALUE, Integer.MAX_VALUE}) {
             B.refuses(x, "41: count(" + what + ")", () -> x.count(what), BAD);
         }
