@@ -29,41 +29,32 @@ public final class LanguageTest {
         "\\bfinally\\b", "\\bsynchronized\\b", "\\bassert\\b", "\\bimport\\b", "\\bpackage\\b", "->", "::", "Exact\\(",
         "static\\s*\\{", "\\bvar\\b", "\\bvolatile\\b", "\\bprotected\\b", "\\bdouble\\b", "\\bfloat\\b", "@"};
 
-    private static final Bench B = new Bench();
-
-    public static void main(String[] args) throws IOException {
-        face();
-        names();
-        fields();
-        String code = withoutComments(Files.readString(SOURCE));
-        words(code);
-        functions(code);
-        lengths(code);
-        B.finish("LanguageTest");
+    public static void main(String[] args) {
+        Tests.runAll(LanguageTest.class);
     }
 
-    private static void face() {
+    static void language_face(Run x) {
         Set<String> methods = new TreeSet<>();
         for (Method m : LoafParts.class.getDeclaredMethods()) {
             if (Modifier.isPublic(m.getModifiers())) {
                 methods.add(m.getName() + Arrays.toString(m.getParameterTypes()).replace("[", "(").replace("]", ")")
                     .replace(" ", ""));
-                B.is(m + " gives what it should", m.getReturnType() == (LONGS.contains(m.getName()) ? long.class
+                x.is(m + " gives what it should", m.getReturnType() == (LONGS.contains(m.getName()) ? long.class
                     : int.class) ? 1 : 0, 1);
             } else {
-                B.is(m + " is private", Modifier.isPrivate(m.getModifiers()) ? 1 : 0, 1);
+                x.is(m + " is private", Modifier.isPrivate(m.getModifiers()) ? 1 : 0, 1);
             }
         }
         String got = String.join(" ", methods);
-        B.is("the face " + got, got.equals(FACE) ? 1 : 0, 1);
+        x.is("the face " + got, got.equals(FACE) ? 1 : 0, 1);
         Constructor<?>[] makers = LoafParts.class.getDeclaredConstructors();
-        B.is("constructors", makers.length, 1);
-        B.is("the constructor is public", Modifier.isPublic(makers[0].getModifiers()) ? 1 : 0, 1);
-        B.is("its parameters", makers[0].getParameterCount(), 0);
-        B.is("the class is public and final", LoafParts.class.getModifiers(), Modifier.PUBLIC | Modifier.FINAL);
+        x.is("constructors", makers.length, 1);
+        x.is("the constructor is public", Modifier.isPublic(makers[0].getModifiers()) ? 1 : 0, 1);
+        x.is("its parameters", makers[0].getParameterCount(), 0);
+        x.is("the class is public and final", LoafParts.class.getModifiers(), Modifier.PUBLIC | Modifier.FINAL);
     }
 
-    private static void names() {
+    static void language_names(Run x) {
         Set<String> open = new TreeSet<>();
         for (Method m : LoafParts.class.getDeclaredMethods()) {
             if (Modifier.isPublic(m.getModifiers())) {
@@ -71,22 +62,22 @@ public final class LanguageTest {
             }
         }
         List<Class<?>> classes = new ArrayList<>(List.of(LoafParts.class.getDeclaredClasses()));
-        B.is("some twelve classes", classes.size() <= 11 ? 1 : 0, 1);
+        x.is("some twelve classes", classes.size() <= 11 ? 1 : 0, 1);
         for (Class<?> c : classes) {
-            B.is(c + " is static", Modifier.isStatic(c.getModifiers()) ? 1 : 0, 1);
+            x.is(c + " is static", Modifier.isStatic(c.getModifiers()) ? 1 : 0, 1);
             for (Method m : c.getDeclaredMethods()) {
-                B.is(m + " has a name of its own", open.contains(m.getName()) ? 1 : 0, 0);
-                B.is(m + " is not public", Modifier.isPublic(m.getModifiers()) ? 1 : 0, 0);
-                B.is(m + " has few parameters", m.getParameterCount() <= 7 ? 1 : 0, 1);
+                x.is(m + " has a name of its own", open.contains(m.getName()) ? 1 : 0, 0);
+                x.is(m + " is not public", Modifier.isPublic(m.getModifiers()) ? 1 : 0, 0);
+                x.is(m + " has few parameters", m.getParameterCount() <= 7 ? 1 : 0, 1);
             }
         }
         for (Method m : LoafParts.class.getDeclaredMethods()) {
             boolean hidden = !Modifier.isPublic(m.getModifiers());
-            B.is(m + " has a name of its own", hidden && open.contains(m.getName()) ? 1 : 0, 0);
+            x.is(m + " has a name of its own", hidden && open.contains(m.getName()) ? 1 : 0, 0);
         }
     }
 
-    private static void fields() {
+    static void language_fields(Run x) {
         List<Class<?>> classes = new ArrayList<>(List.of(LoafParts.class.getDeclaredClasses()));
         classes.add(LoafParts.class);
         for (Class<?> c : classes) {
@@ -94,36 +85,39 @@ public final class LanguageTest {
             for (Field f : c.getDeclaredFields()) {
                 boolean fixed = Modifier.isStatic(f.getModifiers());
                 own += fixed ? 0 : 1;
-                B.is(f + " is final, if static", fixed && !Modifier.isFinal(f.getModifiers()) ? 1 : 0, 0);
+                x.is(f + " is final, if static", fixed && !Modifier.isFinal(f.getModifiers()) ? 1 : 0, 0);
                 if (c == LoafParts.class && !Modifier.isPrivate(f.getModifiers())) {
-                    B.is(f + " is of the face", Set.of("BAD", "FULL", "FINDING", "STATE", "SPENT", "NONE")
+                    x.is(f + " is of the face", Set.of("BAD", "FULL", "FINDING", "STATE", "SPENT", "NONE")
                         .contains(f.getName()) ? 1 : 0, 1);
                 }
             }
-            B.is(c + " has some twenty fields", own <= 20 ? 1 : 0, 1);
+            x.is(c + " has some twenty fields", own <= 20 ? 1 : 0, 1);
         }
     }
 
-    private static String withoutComments(String source) {
-        return source.replaceAll("(?s)/\\*.*?\\*/", "").replaceAll("//[^\n]*", "");
+    private static String code() throws IOException {
+        return Files.readString(SOURCE).replaceAll("(?s)/\\*.*?\\*/", "").replaceAll("//[^\n]*", "");
     }
 
-    private static void words(String code) {
+    static void language_words(Run x) throws IOException {
+        String code = code();
         for (String word : FORBIDDEN) {
             Matcher m = Pattern.compile(word).matcher(code);
-            B.is("the source has " + word, m.find() ? 1 : 0, 0);
+            x.is("the source has " + word, m.find() ? 1 : 0, 0);
         }
     }
 
-    private static void functions(String code) {
+    static void language_functions(Run x) throws IOException {
+        String code = code();
         Matcher m = Pattern.compile("\\b(Integer|Long|Math|System|Arrays|String|Character|Byte)\\.(\\w+)").matcher(code);
         while (m.find()) {
-            B.is(m.group() + " is listed", FUNCTIONS.contains(m.group()) ? 1 : 0, 1);
+            x.is(m.group() + " is listed", FUNCTIONS.contains(m.group()) ? 1 : 0, 1);
         }
     }
 
     /** Methods of the class begin at four blanks, those of classes inside at eight. */
-    private static void lengths(String code) {
+    static void language_lengths(Run x) throws IOException {
+        String code = code();
         String[] lines = code.split("\n");
         for (int k = 0; k < lines.length; k++) {
             String indent = lines[k].startsWith("        ") ? "        " : "    ";
@@ -132,9 +126,9 @@ public final class LanguageTest {
                 while (end < lines.length && !lines[end].equals(indent + "}")) {
                     end++;
                 }
-                B.is(lines[k].trim() + " is short", end - k <= 60 ? 1 : 0, 1);
+                x.is(lines[k].trim() + " is short", end - k <= 60 ? 1 : 0, 1);
             }
-            B.is("line " + k + " is not too long", lines[k].length() <= 120 ? 1 : 0, 1);
+            x.is("line " + k + " is not too long", lines[k].length() <= 120 ? 1 : 0, 1);
         }
     }
 }

@@ -426,7 +426,7 @@ final class Model {
     }
 
     /** Every set that makes it up: how many, the greatest size, the first of fewest. */
-    private static int[] sets(int size, int from) {
+    static int[] sets(int size, int from) {
         int many = 0;
         int most = 0;
         int few = -1;

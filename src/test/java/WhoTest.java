@@ -1,112 +1,287 @@
 /** Promises 31 to 33: dues, kinds, test. */
 public final class WhoTest {
-    private static final Bench B = new Bench();
-    private static final int BAD = LoafParts.BAD, NONE = LoafParts.NONE;
+    private static final int NOTHING = Run.NOTHING, UNLIKE = Run.UNLIKE, SIZE = Run.SIZE;
+    private static final int MIN = Run.MIN, MAX = Run.MAX;
+    private static final int[] NO_PARTS = {1, 17, 0, -1, -2, 34, -30, MIN, MAX};
+    /** Pairs, the KINDS (bits) that one can be of by them, the d to offer, the greatest part. */
+    private static final int[][][] ASKED = {
+        {{}, {63, 2, 3}}, {{2, 0}, {44, 3, 2}}, {{2, 1}, {19, 3, 2}}, {{3, 0}, {42, 2, 2}}, {{3, 1}, {21, 2, 2}},
+        {{4, 0}, {4, 2, 1}}, {{4, 1}, {59, 2, 3}}, {{5, 0}, {50, 2, 2}}, {{5, 1}, {13, 2, 2}}, {{6, 0}, {6, 2, 1}},
+        {{6, 1}, {57, 2, 2}}, {{10, 0}, {22, 2, 2}}, {{10, 1}, {41, 2, 2}}, {{2, 0, 3, 0}, {40, 5, 1}},
+        {{2, 1, 3, 0}, {2, 2, 1}}, {{2, 1, 3, 1}, {17, 5, 1}}, {{2, 0, 5, 0}, {32, 2, 1}}, {{2, 0, 5, 1}, {12, 3, 1}},
+        {{2, 1, 5, 0}, {18, 3, 1}}, {{2, 1, 5, 1}, {1, 2, 1}}, {{3, 0, 5, 0}, {34, 2, 1}}, {{3, 0, 5, 1}, {8, 2, 1}},
+        {{3, 1, 5, 0}, {16, 2, 1}}, {{3, 1, 5, 1}, {5, 2, 1}}, {{3, 1, 10, 0}, {20, 2, 1}}, {{4, 1, 5, 1}, {9, 2, 1}},
+        {{5, 0, 6, 1}, {48, 2, 1}}};
 
     public static void main(String[] args) {
-        dues();
-        kinds();
-        test();
-        wrongPairs();
-        B.finish("WhoTest");
+        Tests.runAll(WhoTest.class);
     }
 
-    private static void dues() {
-        LoafParts x = new LoafParts();
-        Bench.putRow(x, 0, 2);
-        B.tells(x, "31: a half", x.dues(0), 4, 12);
-        Bench.putRow(x, 0, 6, 3, 2);
-        B.tells(x, "31: one", x.dues(0), 9, 11);
-        Bench.putRow(x, 0, 2, 4);
-        B.tells(x, "31: 3 by 4", x.dues(0), 2, 34);
-        Bench.putRow(x, 0, 9);
-        B.tells(x, "31: 1 by 9", x.dues(0), 1, 19);
-        Bench.putRow(x, 0, 16);
-        B.refuses(x, "31: 1 by 16", () -> x.dues(0), NONE);
-        x.row(0, 0);
-        B.refuses(x, "31: nothing", () -> x.dues(0), NONE);
-        Bench.putRow(x, 0, 2, 3, 4, 5, 6, 7, 8, 9, 10, 11, 12, 13, 14, 15, 16);
-        B.refuses(x, "31: all", () -> x.dues(0), NONE);
-        Bench.putRow(x, 0, 2, 3, 4, 5, 6, 8, 10, 12, 15);
-        B.refuses(x, "31: 1 11 by 24 and more", () -> x.dues(0), NONE);
-        Bench.putRow(x, 0, 2, 3, 4, 6, 12);
-        B.tells(x, "31: 4 by 3", x.dues(0), 2, 43);
-        Bench.putRow(x, 0, 2, 2);
-        B.finds(x, "31: twice", () -> x.dues(0), Bench.UNLIKE);
-        for (int d : new int[] {0, 1, 17, -2, 34, Integer.MIN_VALUE, Integer.MAX_VALUE}) {
-            Bench.putRow(x, 0, 3, d);
-            B.finds(x, "31: d " + d, () -> x.dues(0), Bench.UNLIKE);
+    // ---- 31 dues
+
+    static void promise31_ofHowMany(Run x) {
+        int[][] one = {{2, 4, 12}, {3, 3, 13}, {4, 2, 14}, {5, 1, 15}, {8, 1, 18}, {9, 1, 19}};
+        for (int[] d : one) {
+            x.row(0, d[0]);
+            x.tells("dues(0)", d[1], d[2]);
         }
-        x.row(0, 40);
-        B.finds(x, "31: 40 of 0", () -> x.dues(0), Bench.UNLIKE);
-        B.finds(x, "31: dues(1)", () -> x.dues(1), Bench.NOTHING);
-        B.refuses(x, "31: dues(6)", () -> x.dues(6), BAD);
-        B.refuses(x, "31: dues(-1)", () -> x.dues(-1), BAD);
+        x.row(0, 2, 4);
+        x.tells("dues(0)", 2, 34);
+        x.row(0, 2, 3, 4, 6, 12);
+        x.tells("dues(0)", 2, 43);
+        x.row(0, 2, 3, 4, 6, 10, 12, 15);
+        x.tells("dues(0)", 3, 32);
     }
 
-    private static void kinds() {
-        LoafParts x = new LoafParts();
-        x.row(0, 0);
-        B.is("32: all", x.kinds(0), 63);
-        Bench.putRow(x, 0, 2, 1);
-        B.is("32: TAKES 2", x.kinds(0), 1 + 2 + 16);
-        Bench.putRow(x, 0, 2, 0);
-        B.is("32: does not TAKE 2", x.kinds(0), 4 + 8 + 32);
-        Bench.putRow(x, 0, 2, 1, 3, 1, 5, 0);
-        B.is("32: a SCRIBE", x.kinds(0), 16);
-        Bench.putRow(x, 0, 4, 1, 3, 0, 5, 0, 2, 0);
-        B.is("32: a MASTER", x.kinds(0), 32);
-        Bench.putRow(x, 0, 4, 1, 5, 1, 3, 0);
-        B.is("32: a SHY one", x.kinds(0), 8);
-        Bench.putRow(x, 0, 3, 1, 4, 0);
-        B.is("32: an ODD one", x.kinds(0), 4);
-        Bench.putRow(x, 0, 16, 1, 12, 0);
-        B.is("32: an EYE", x.kinds(0), 2);
-        Bench.putRow(x, 0, 2, 1, 5, 1);
-        B.is("32: a WORKER", x.kinds(0), 1);
-        Bench.putRow(x, 0, 7, 1, 7, 0);
-        B.is("32: none", x.kinds(0), 0);
-        Bench.putRow(x, 0, 7, 1, 7, 1);
-        B.is("32: twice alike", x.kinds(0), 1 + 4 + 8);
-        B.is("32: asked() is left", x.asked(), 0);
+    static void promise31_theFirstByAThenB(Run x) {
+        x.row(0, 2, 3, 6);
+        x.tells("dues(0)", 9, 11);
+        x.row(0, 2, 3, 4, 5, 6, 12, 15);
+        x.tells("dues(0)", 1, 85);
     }
 
-    private static void test() {
-        LoafParts x = new LoafParts();
-        x.row(0, 0);
-        B.tells(x, "33: all", x.test(0), 2, 3);
-        Bench.putRow(x, 0, 2, 1);
-        // WORKER, EYE, SCRIBE: 3 parts the EYE from the others.
-        B.tells(x, "33: WORKER, EYE, SCRIBE", x.test(0), 3, 2);
-        Bench.putRow(x, 0, 2, 0);
-        B.tells(x, "33: ODD, SHY, MASTER", x.test(0), 3, 2);
-        Bench.putRow(x, 0, 2, 0, 3, 0);
-        B.tells(x, "33: SHY, MASTER", x.test(0), 5, 1);
-        Bench.putRow(x, 0, 2, 1, 3, 1);
-        B.tells(x, "33: WORKER, SCRIBE", x.test(0), 5, 1);
-        Bench.putRow(x, 0, 2, 1, 5, 1);
-        B.tells(x, "33: a WORKER alone", x.test(0), 2, 1);
-        Bench.putRow(x, 0, 7, 1, 7, 0);
-        B.refuses(x, "33: none", () -> x.test(0), NONE);
+    static void promise31_inAnyOrder(Run x) {
+        x.row(5, 6, 2, 3);
+        x.tells("dues(5)", 9, 11);
+        x.rowIs(5, 6, 2, 3);
     }
 
-    private static void wrongPairs() {
-        LoafParts x = new LoafParts();
-        Bench.putRow(x, 0, 99, 1, 2);
-        B.finds(x, "32: kinds, SIZE first", () -> x.kinds(0), Bench.SIZE);
-        B.finds(x, "33: test, SIZE first", () -> x.test(0), Bench.SIZE);
-        int[][] pairs = {{1, 1}, {17, 0}, {2, 2}, {2, -1}, {3, 1, 0, 0}, {3, 1, 4, Integer.MAX_VALUE}, {-2, 1},
-            {Integer.MIN_VALUE, 1}, {7, 1, 7, 0, 1, 1}};
-        for (int[] pair : pairs) {
-            Bench.putRow(x, 1, pair);
-            B.finds(x, "32: kinds, " + pair[0], () -> x.kinds(1), Bench.UNLIKE);
-            B.finds(x, "33: test, " + pair[0], () -> x.test(1), Bench.UNLIKE);
+    static void promise31_noneOfNone(Run x) {
+        x.row(0, 2);
+        x.tells("dues(0)", 4, 12);
+        for (int d = 10; d <= 16; d++) {
+            x.row(0, d);
+            x.none("dues(0)");
         }
-        B.finds(x, "32: kinds(5)", () -> x.kinds(5), Bench.NOTHING);
-        B.finds(x, "33: test(5)", () -> x.test(5), Bench.NOTHING);
-        for (int r : new int[] {6, -1}) {
-            B.refuses(x, "32: kinds(" + r + ")", () -> x.kinds(r), BAD);
-            B.refuses(x, "33: test(" + r + ")", () -> x.test(r), BAD);
+        x.row(0, 2, 3, 4, 5, 6, 7, 8, 9, 10, 11, 12, 13, 14, 15, 16);
+        x.none("dues(0)");
+    }
+
+    static void promise31_noneOfARowOfNoInts(Run x) {
+        x.call("row(0, 0)");
+        x.none("dues(0)");
+    }
+
+    static void promise31_unlikeIfADIsNone(Run x) {
+        for (int d : NO_PARTS) {
+            x.fresh();
+            x.row(0, d);
+            x.finds("dues(0)", UNLIKE);
+            x.row(1, 3, d);
+            x.finds("dues(1)", UNLIKE);
+            x.row(2, d, 3);
+            x.finds("dues(2)", UNLIKE);
         }
+        x.row(0, 2, 16);
+        x.none("dues(0)");
+    }
+
+    static void promise31_unlikeIfTwice(Run x) {
+        x.row(0, 2, 2);
+        x.finds("dues(0)", UNLIKE);
+        x.row(0, 16, 3, 16);
+        x.finds("dues(0)", UNLIKE);
+        x.row(0, 2, 3, 4, 5, 6, 7, 8, 9, 10, 11, 12, 13, 14, 15, 16, 2);
+        x.finds("dues(0)", UNLIKE);
+        x.call("row(0, 40)");
+        x.finds("dues(0)", UNLIKE);
+    }
+
+    static void promise31_nothing(Run x) {
+        x.row(0, 2);
+        x.finds("dues(1)", NOTHING);
+        x.call("tear(0)");
+        x.finds("dues(0)", NOTHING);
+    }
+
+    static void promise31_bad(Run x) {
+        x.row(0, 2);
+        x.badRow("dues(#)");
+    }
+
+    static void promise31_withoutWorkersOrWith(Run x) {
+        x.row(0, 2);
+        x.tells("dues(0)", 4, 12);
+        x.table("20w34w11");
+        x.tells("dues(0)", 4, 12);
+    }
+
+    // ---- 32 kinds
+
+    static void promise32_kindsByPairs(Run x) {
+        for (int[][] asked : ASKED) {
+            x.row(0, asked[0]);
+            x.due("kinds(0)", asked[1][0]);
+        }
+    }
+
+    static void promise32_eachPairAlone(Run x) {
+        for (int d = 2; d <= 16; d++) {
+            int set = 0;
+            for (int kind = 0; kind < 6; kind++) {
+                set |= Model.kindTakes(kind, d) ? 1 << kind : 0;
+            }
+            x.row(0, d, 1);
+            x.due("kinds(0)", set);
+            x.row(0, d, 0);
+            x.due("kinds(0)", 63 - set);
+        }
+    }
+
+    static void promise32_allByNoPairs(Run x) {
+        x.call("row(0, 0)");
+        x.due("kinds(0)", 63);
+    }
+
+    static void promise32_nobodyIsNoRefusal(Run x) {
+        x.row(0, 7, 1, 7, 0);
+        x.due("kinds(0)", 0);
+        x.row(0, 2, 1, 4, 0);
+        x.due("kinds(0)", 0);
+    }
+
+    static void promise32_twiceAlike(Run x) {
+        x.row(0, 7, 1, 7, 1);
+        x.due("kinds(0)", 1 + 4 + 8);
+    }
+
+    static void promise32_twentyPairs(Run x) {
+        x.call("row(0, 40)");
+        for (int i = 0; i < 40; i += 2) {
+            x.call("lay(0, " + i + ", 4)");
+            x.call("lay(0, " + (i + 1) + ", 1)");
+        }
+        x.due("kinds(0)", 59);
+        x.call("lay(0, 38, 3)");
+        x.call("lay(0, 39, 0)");
+        x.due("kinds(0)", 42);
+        x.call("lay(0, 39, 2)");
+        x.finds("kinds(0)", UNLIKE);
+    }
+
+    static void promise32_askedStays(Run x) {
+        x.row(0, 7, 1);
+        x.tells("at(0, 0)", 1, 7);
+        x.tells("kinds(0)", 13, 7);
+    }
+
+    static void promise32_sizeIfNotByPairs(Run x) {
+        x.row(0, 2);
+        x.finds("kinds(0)", SIZE);
+        x.row(0, 2, 1, 3);
+        x.finds("kinds(0)", SIZE);
+        x.call("row(0, 39)");
+        x.finds("kinds(0)", SIZE);
+    }
+
+    static void promise32_sizeAheadOfUnlike(Run x) {
+        x.row(0, 99, 1, 2);
+        x.finds("kinds(0)", SIZE);
+        x.row(0, 99, 1);
+        x.finds("kinds(0)", UNLIKE);
+    }
+
+    static void promise32_unlikeIfADIsNone(Run x) {
+        for (int d : NO_PARTS) {
+            x.fresh();
+            x.row(0, d, 1);
+            x.finds("kinds(0)", UNLIKE);
+            x.row(1, 3, 1, d, 0);
+            x.finds("kinds(1)", UNLIKE);
+            x.row(2, 7, 1, 7, 0, d, 0);
+            x.finds("kinds(2)", UNLIKE);
+        }
+    }
+
+    static void promise32_unlikeIfAnAnswerIsNone(Run x) {
+        for (int answer : new int[] {2, -1, 3, MIN, MAX}) {
+            x.fresh();
+            x.row(0, 2, answer);
+            x.finds("kinds(0)", UNLIKE);
+            x.row(1, 3, 1, 4, answer);
+            x.finds("kinds(1)", UNLIKE);
+        }
+    }
+
+    static void promise32_nothing(Run x) {
+        x.finds("kinds(0)", NOTHING);
+        x.finds("kinds(5)", NOTHING);
+    }
+
+    static void promise32_bad(Run x) {
+        x.row(0, 2, 1);
+        x.badRow("kinds(#)");
+    }
+
+    // ---- 33 test
+
+    static void promise33_toldApartBest(Run x) {
+        for (int[][] asked : ASKED) {
+            x.row(0, asked[0]);
+            x.tells("test(0)", asked[1][1], asked[1][2]);
+        }
+    }
+
+    static void promise33_ofAllKinds(Run x) {
+        x.call("row(5, 0)");
+        x.tells("test(5)", 2, 3);
+    }
+
+    static void promise33_ofOneKindTheFirst(Run x) {
+        x.row(0, 2, 1, 5, 1);
+        x.tells("test(0)", 2, 1);
+        x.row(0, 4, 0);
+        x.tells("test(0)", 2, 1);
+    }
+
+    static void promise33_noneIfThereIsNoKind(Run x) {
+        x.row(0, 4, 1);
+        x.tells("test(0)", 2, 3);
+        x.row(0, 7, 1, 7, 0);
+        x.none("test(0)");
+    }
+
+    static void promise33_sizeIfNotByPairs(Run x) {
+        x.row(0, 2);
+        x.finds("test(0)", SIZE);
+        x.row(0, 2, 1, 3);
+        x.finds("test(0)", SIZE);
+        x.call("row(0, 39)");
+        x.finds("test(0)", SIZE);
+    }
+
+    static void promise33_sizeAheadOfUnlike(Run x) {
+        x.row(0, 99, 1, 2);
+        x.finds("test(0)", SIZE);
+    }
+
+    static void promise33_unlikeIfADIsNone(Run x) {
+        for (int d : NO_PARTS) {
+            x.fresh();
+            x.row(0, d, 1);
+            x.finds("test(0)", UNLIKE);
+            x.row(1, 7, 1, 7, 0, d, 0);
+            x.finds("test(1)", UNLIKE);
+        }
+    }
+
+    static void promise33_unlikeIfAnAnswerIsNone(Run x) {
+        for (int answer : new int[] {2, -1, 3, MIN, MAX}) {
+            x.fresh();
+            x.row(0, 2, answer);
+            x.finds("test(0)", UNLIKE);
+            x.row(1, 7, 1, 7, 0, 4, answer);
+            x.finds("test(1)", UNLIKE);
+        }
+    }
+
+    static void promise33_nothing(Run x) {
+        x.finds("test(0)", NOTHING);
+        x.finds("test(5)", NOTHING);
+    }
+
+    static void promise33_bad(Run x) {
+        x.row(0, 2, 1);
+        x.badRow("test(#)");
     }
 }
