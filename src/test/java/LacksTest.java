@@ -175,9 +175,13 @@ public final class LacksTest {
 
     /** 4 6 10 12 (bits 5200) and 4 5 12 15 (bits 36912) are the sets of fewest. */
     static void promise24_ofLikeFewTheLeastNumber(Run x) {
-        x.table("20s35w11");
+        x.table("20s35w34");
         x.due("writes(0, 0)", 4);
         x.rowIs(0, 4, 6, 10, 12);
+        // 7 by 12 without a sixth: 3 4 (bits 24), 2 12 (bits 4100).
+        x.pay(1, 6);
+        x.due("writes(1, 0)", 2);
+        x.rowIs(0, 3, 4);
     }
 
     static void promise24_theRowIsAnew(Run x) {
@@ -376,6 +380,14 @@ public final class LacksTest {
         x.call("cut(10)");
         x.call("cut(6)");
         x.tells("serve(0)", 5200, 4);
+        x.table("20w34w11");
+        x.pay(0, 6);
+        x.call("cut(12)");
+        x.call("cut(2)");
+        x.tells("serve(0)", 4100, 2);
+        x.call("cut(4)");
+        x.call("cut(3)");
+        x.tells("serve(0)", 24, 2);
     }
 
     static void promise26_nothingByNone(Run x) {
