@@ -769,10 +769,10 @@ public final class LoafParts {
         private final int[] cells;
 
         Shelf(int howMany, int places) {
-            this.places = places;
-            sizes = new int[howMany];
-            cells = new int[howMany * places];
-            for (int r = 0; r < howMany; r++) {
+            this.places = Math.max(places, 0);
+            sizes = new int[Math.max(howMany, 0)];
+            cells = new int[sizes.length * this.places];
+            for (int r = 0; r < sizes.length; r++) {
                 sizes[r] = MISSING;
             }
         }
@@ -790,7 +790,7 @@ public final class LoafParts {
         }
 
         boolean hasPlace(int r, int i) {
-            return i >= 0 && i < sizeOf(r);
+            return isNumber(r) && i >= 0 && i < sizes[r];
         }
 
         boolean hasStretch(int r, int i, int n) {
@@ -940,7 +940,7 @@ public final class LoafParts {
             }
             loaves = 10 * tens + ones;
             i = pastBlanks(texts, t, i + 2);
-            while (i < size && workers < MOST_WORKERS) {
+            for (int w = 0; w < MOST_WORKERS && i < size; w++) {
                 int fault = readWorker(texts, t, i);
                 if (fault != NONE) {
                     return fault;
@@ -1297,7 +1297,11 @@ public final class LoafParts {
                 note(set);
                 return;
             }
-            if (rest < 0 || place >= ORDER.length || place >= COMMON.length || rest % COMMON[place] != 0) {
+            if (rest < 0 || place >= ORDER.length || place >= COMMON.length) {
+                return;
+            }
+            int common = COMMON[place];
+            if (common <= 0 || rest % common != 0) {
                 return;
             }
             int d = ORDER[place];

@@ -8,7 +8,9 @@ import java.nio.file.Path;
 import java.util.ArrayList;
 import java.util.Arrays;
 import java.util.List;
+import java.util.Map;
 import java.util.Set;
+import java.util.TreeMap;
 import java.util.TreeSet;
 import java.util.regex.Matcher;
 import java.util.regex.Pattern;
@@ -28,6 +30,10 @@ public final class LanguageTest {
     private static final String[] FORBIDDEN = {"\\bthrow\\b", "\\bthrows\\b", "\\btry\\b", "\\bcatch\\b",
         "\\bfinally\\b", "\\bsynchronized\\b", "\\bassert\\b", "\\bimport\\b", "\\bpackage\\b", "->", "::", "Exact\\(",
         "static\\s*\\{", "\\bvar\\b", "\\bvolatile\\b", "\\bprotected\\b", "\\bdouble\\b", "\\bfloat\\b", "@"};
+
+    /** Indent, modifiers, what it gives (a constructor: nothing), name, parameters, body. */
+    private static final Pattern METHOD = Pattern.compile("(?ms)^( {4}| {8})((?:public |private |static |final )*)"
+        + "((?:\\w+(?:\\[\\])? )?)(\\w+)\\(([^)]*)\\) \\{\n(.*?)^\\1\\}$");
 
     public static void main(String[] args) {
         Tests.runAll(LanguageTest.class);
@@ -115,20 +121,95 @@ public final class LanguageTest {
         }
     }
 
-    /** Methods of the class begin at four blanks, those of classes inside at eight. */
-    static void language_lengths(Run x) throws IOException {
-        String code = code();
-        String[] lines = code.split("\n");
-        for (int k = 0; k < lines.length; k++) {
-            String indent = lines[k].startsWith("        ") ? "        " : "    ";
-            if (lines[k].matches(" {4}( {4})?[a-z][^=;]*\\) \\{") && !lines[k].trim().matches("(if|for|while|switch).*")) {
-                int end = k;
-                while (end < lines.length && !lines[end].equals(indent + "}")) {
-                    end++;
-                }
-                x.is(lines[k].trim() + " is short", end - k <= 60 ? 1 : 0, 1);
-            }
-            x.is("line " + k + " is not too long", lines[k].length() <= 120 ? 1 : 0, 1);
+    private record Part(boolean maker, String name, String body) {
+        String[] lines() {
+            return body.split("\n");
         }
+    }
+
+    /** Methods and constructors: those of the class begin at four blanks, those of classes inside at eight. */
+    private static List<Part> parts() throws IOException {
+        List<Part> found = new ArrayList<>();
+        Matcher m = METHOD.matcher(code());
+        while (m.find()) {
+            if (!Set.of("if", "for", "while", "switch").contains(m.group(4))) {
+                found.add(new Part(m.group(3).isEmpty(), m.group(4), m.group(6)));
+            }
+        }
+        return found;
+    }
+
+    /** The other tests by parts() look at every method, none is left out by its form. */
+    static void language_partsAreAllThere(Run x) throws IOException {
+        int there = 0;
+        List<Class<?>> classes = new ArrayList<>(List.of(LoafParts.class.getDeclaredClasses()));
+        classes.add(LoafParts.class);
+        for (Class<?> c : classes) {
+            for (Method m : c.getDeclaredMethods()) {
+                there += m.isSynthetic() ? 0 : 1;
+            }
+        }
+        x.is("methods", parts().stream().filter(part -> !part.maker).count(), there);
+    }
+
+    static void language_lengths(Run x) throws IOException {
+        for (Part part : parts()) {
+            x.is(part.name + " is short", part.lines().length <= 60 ? 1 : 0, 1);
+        }
+        for (String line : Files.readString(SOURCE).split("\n")) {
+            x.is("not too long: " + line, line.length() <= 120 ? 1 : 0, 1);
+        }
+    }
+
+    /** All calls of a run live in one room, so that no call makes anything: the constructors do. */
+    static void language_callsMakeNothing(Run x) throws IOException {
+        for (Part part : parts()) {
+            x.is(part.name + " makes something", !part.maker && part.body.matches("(?s).*(\\bnew\\b|clone\\(|copyOf).*")
+                ? 1 : 0, 0);
+        }
+    }
+
+    /** A divisor is a number, a constant, or a name that the same method looks at; a counter begins above 0. */
+    static void language_divisorsAreLookedAt(Run x) throws IOException {
+        for (Part part : parts()) {
+            Matcher m = Pattern.compile("[/%]=? *([^ ;,)]+(?:\\.\\w+)*)").matcher(part.body);
+            while (m.find()) {
+                String by = m.group(1);
+                boolean looked = by.matches("[1-9]\\d*|[A-Z_]+") || Pattern.compile("(?<![\\w.])(?<![/%] )"
+                    + Pattern.quote(by) + " (>|<=|==|!=) 0|for \\(int " + Pattern.quote(by) + " = (1|FIRST_PART);")
+                    .matcher(part.body).find();
+                x.is(part.name + " divides by " + by + ", which it looked at", looked ? 1 : 0, 1);
+            }
+        }
+    }
+
+    /** Calls that are no recursion: the longest way from a call of the face, itself counted. */
+    static void language_depth(Run x) throws IOException {
+        Map<String, Set<String>> calls = new TreeMap<>();
+        for (Part part : parts()) {
+            if (!part.maker) {
+                calls.computeIfAbsent(part.name, name -> new TreeSet<>());
+            }
+        }
+        for (Part part : parts()) {
+            Matcher m = Pattern.compile("(\\w+)\\(").matcher(part.body);
+            while (m.find() && !part.maker) {
+                if (calls.containsKey(m.group(1)) && !m.group(1).equals(part.name)) {
+                    calls.get(part.name).add(m.group(1));
+                }
+            }
+        }
+        for (String name : calls.keySet()) {
+            x.is(name + " goes at most eight deep", depth(calls, name, 1) <= 8 ? 1 : 0, 1);
+        }
+    }
+
+    /** Where methods call one another in a ring, it is deeper than all bounds. */
+    private static int depth(Map<String, Set<String>> calls, String name, int above) {
+        int most = 1;
+        for (String next : calls.get(name)) {
+            most = Math.max(most, above > 99 ? 99 : 1 + depth(calls, next, above + 1));
+        }
+        return most;
     }
 }
